@@ -1,0 +1,54 @@
+/** Objects that several tests begin with. */
+final class Samples {
+    private Samples() {
+    }
+
+    /** SET 0 5; SET 1 7; ADD 0 1; PRINT 0; TIMES 1 0; PRINT 1; a DECOY 6; 7 is WRONG for 2. */
+    static BlockMarker sums() {
+        BlockMarker x = new BlockMarker();
+        x.line(0, 0, 5);
+        x.line(0, 1, 7);
+        x.line(2, 0, 1);
+        x.line(4, 0, 0);
+        x.line(3, 1, 0);
+        x.line(4, 1, 0);
+        x.decoy(0, 0, 9);
+        x.wrong(2, 2, 1, 0);
+        x.input(0, 0, 0, 0, 0, 0);
+        x.input(1, 2, 3, 4, 5, 6);
+        return x;
+    }
+
+    /** n NOTES of the MODEL: each order of them is right. */
+    static BlockMarker notes(int n) {
+        BlockMarker x = new BlockMarker();
+        for (int i = 0; i < n; i++) {
+            x.line(5, 0, 0);
+        }
+        return x;
+    }
+
+    /** n PRINTS of the MODEL: one order alone is right. */
+    static BlockMarker prints(int n) {
+        BlockMarker x = new BlockMarker();
+        for (int i = 0; i < n; i++) {
+            x.line(4, i % 6, 0);
+        }
+        return x;
+    }
+
+    static void layAll(BlockMarker x, int... row) {
+        for (int l : row) {
+            x.lay(l, x.size());
+        }
+    }
+
+    /** THE ANSWER as text, "3 1 2". */
+    static String answerOf(BlockMarker x) {
+        StringBuilder text = new StringBuilder();
+        for (int place = 0; place < x.size(); place++) {
+            text.append(place == 0 ? "" : " ").append(x.at(place));
+        }
+        return text.toString();
+    }
+}
