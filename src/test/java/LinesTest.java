@@ -158,9 +158,12 @@ public final class LinesTest {
         CHECK.same("wiped: digest()", x.digest(), 31 * 101 + 1);
         CHECK.same("wiped: a DECOY first", x.decoy(5, 0, 0), 0);
         CHECK.same("wiped: then a LINE", x.line(0, 0, 1), 1);
-        CHECK.same("wiped: the DECOY has no needs left over", x.needs(0, 1), 0);
+        CHECK.same("wiped: then another", x.line(0, 0, 2), 2);
+        CHECK.same("wiped: the DECOY has no needs left over", x.needs(0, 2), 0);
         CHECK.same("wiped: no PARTNER left over", x.told(1, 4), BlockMarker.NONE);
         CHECK.same("wiped: input", x.input(1, 1, 1, 1, 1, 1), 0);
+        x.lay(0, 0);
+        CHECK.same("wiped: the DECOY is none of the MODEL", x.mark(), 3);
     }
 
     private static void told() {
