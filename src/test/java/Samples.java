@@ -37,6 +37,26 @@ final class Samples {
         return x;
     }
 
+    /**
+     * LINES of all KINDS: so many of the MODEL, WRONG ones of the first of them, DECOYS; one INPUT; a
+     * run() of the MODEL, so that there is something that a call could spoil.
+     */
+    static BlockMarker mixed(int ofModel, int wrongs, int decoys) {
+        BlockMarker x = new BlockMarker();
+        for (int i = 0; i < ofModel; i++) {
+            x.line(i % 7, i % 6, (i + 1) % 6);
+        }
+        for (int p = 0; p < wrongs; p++) {
+            x.wrong(p, (p + 3) % 7, p % 6, (p + 2) % 6);
+        }
+        for (int i = 0; i < decoys; i++) {
+            x.decoy(4, i % 6, 0);
+        }
+        x.input(3, 1, 4, 1, 5, 9);
+        x.run(0, true);
+        return x;
+    }
+
     static void layAll(BlockMarker x, int... row) {
         for (int l : row) {
             x.lay(l, x.size());
