@@ -27,6 +27,7 @@ public final class RunsBoundsTest {
         alikeOfTheEmptyAnswer();
         alikeByTheFirstAndTheLastInput();
         alikeByHowManyInts();
+        alikeAgain();
         alikeByOneInt();
         alikeLooksAtNothingElse();
         CHECK.end();
@@ -344,6 +345,25 @@ public final class RunsBoundsTest {
         CHECK.leaves(printing(1, 0, 1, 2), "one int too many", x -> x.alike(), 0);
         CHECK.leaves(printing(1, 2, 0), "the same ints, by a DECOY", x -> x.alike(), NONE);
         CHECK.leaves(printing(1, 1, 0), "the same ints, in no RIGHT ORDER", x -> x.alike(), NONE);
+    }
+
+    /** "if it PRINTED": by THE ANSWER as it is now, nothing is left of one that was longer or shorter. */
+    private static void alikeAgain() {
+        BlockMarker x = printing(2, 0, 1, 2).get();
+        CHECK.same("one int too many", x.alike(), 0);
+        x.take(2);
+        CHECK.same("as many again", x.alike(), NONE);
+        x.take(0);
+        CHECK.same("one int too few", x.alike(), 0);
+        x.clear();
+        CHECK.same("none", x.alike(), 0);
+        Samples.layAll(x, 0, 1);
+        CHECK.same("as many at last", x.alike(), NONE);
+        x.wipe();
+        x.line(4, 0, 0);
+        x.input(8, 8, 8, 8, 8, 8);
+        x.lay(0, 0);
+        CHECK.same("wiped, with a shorter MODEL", x.alike(), NONE);
     }
 
     private static BlockMarker differingAt(int place) {
