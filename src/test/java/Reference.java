@@ -13,6 +13,9 @@ final class Reference {
     final List<int[]> lines = new ArrayList<>(); // kind, v, w, role, partner
     final List<Integer> answer = new ArrayList<>();
 
+    /** What needs() has found by now; LINES only come, and what holds of two does not change then. */
+    private final Map<Integer, Boolean> knownNeeds = new HashMap<>();
+
     int role(int l) {
         return lines.get(l)[3];
     }
@@ -54,12 +57,17 @@ final class Reference {
         if (a >= b || role(a) != 0 || role(b) != 0) {
             return false;
         }
-        boolean direct = meet(writes(a), reads(b)) || meet(reads(a), writes(b)) || meet(writes(a), writes(b))
-            || lines.get(a)[0] == 4 && lines.get(b)[0] == 4;
-        for (int c = a + 1; c < b && !direct; c++) {
-            direct = needs(a, c) && needs(c, b);
+        Boolean known = knownNeeds.get(100 * a + b);
+        if (known != null) {
+            return known;
         }
-        return direct;
+        boolean holds = meet(writes(a), reads(b)) || meet(reads(a), writes(b)) || meet(writes(a), writes(b))
+            || lines.get(a)[0] == 4 && lines.get(b)[0] == 4;
+        for (int c = a + 1; c < b && !holds; c++) {
+            holds = needs(a, c) && needs(c, b);
+        }
+        knownNeeds.put(100 * a + b, holds);
+        return holds;
     }
 
     /** All RIGHT ORDERS, the least first. */
@@ -136,7 +144,7 @@ final class Reference {
         }
     }
 
-    private boolean useless(int l) {
+    boolean useless(int l) {
         return role(l) == 1 || role(l) == 2 && answer.contains(partner(l));
     }
 
@@ -149,13 +157,20 @@ final class Reference {
         int n = answer.size();
         boolean[] best = new boolean[n];
         int most = -1;
+        int dropped = 0;
+        for (int place = 0; place < n; place++) {
+            dropped |= useless(answer.get(place)) ? 1 << (n - 1 - place) : 0;
+        }
         // Counted downwards with place 0 as the highest bit, the first of equals is the one due.
         for (int choice = (1 << n) - 1; choice >= 0; choice--) {
+            if ((choice & dropped) != 0 || Integer.bitCount(choice) <= most) {
+                continue;
+            }
             boolean[] has = new boolean[n];
             for (int place = 0; place < n; place++) {
                 has[place] = (choice >> (n - 1 - place) & 1) != 0;
             }
-            if (Integer.bitCount(choice) > most && holds(has)) {
+            if (holds(has)) {
                 most = Integer.bitCount(choice);
                 best = has;
             }
@@ -165,9 +180,6 @@ final class Reference {
 
     private boolean holds(boolean[] has) {
         for (int i = 0; i < has.length; i++) {
-            if (has[i] && useless(answer.get(i))) {
-                return false;
-            }
             for (int j = i + 1; j < has.length; j++) {
                 if (has[i] && has[j] && needs(takenFor(answer.get(j)), takenFor(answer.get(i)))) {
                     return false;
